@@ -10,7 +10,7 @@ public final class KeyringCourt {
     public static final int ASKING = 0, GRANTED = 1, DENIED = 2;
     public static final int GOOD = 0, WRONG_AUDIENCE = 1, TOO_OLD = 2, NO_KEY = 3, ENDED = 4, NO_SCOPE = 5;
 
-    private static final int PEOPLE = 6, DEVICES = 6, PLACES = 6, ACCOUNTS = 6, SERVICES = 4;
+    private static final int PEOPLE = 6, DEVICES = 6, PLACES = 6, SERVICES = 4;
     private static final int FACTORS = 3, RULES = 3, SCOPES = 4, ALL_SCOPES = 15;
     private static final int MOST_LEVEL = 6, MOST_RISK = 20, MOST_POINTS = 5, MOST_TIMES = 3, MOST_COUNTER = 9999;
     private static final int MOST_VERSIONS = 8, MOST_ATTEMPTS = 60, MOST_ANSWERS = 12, MOST_SESSIONS = 60;

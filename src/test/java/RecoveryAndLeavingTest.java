@@ -184,6 +184,13 @@ public final class RecoveryAndLeavingTest {
         due.state("45: it began 59 minutes ago", x, () -> x.finish(0));
         x.pass(1);
         due.is("45: it began 60 minutes ago", 0, x.finish(0));
+        int later = x.recover(3);
+        x.vouch(later, Courts.signIn(x, 1, STICK));
+        x.vouch(later, Courts.signIn(x, 2, STICK));
+        x.pass(59);
+        due.state("45: one that began in the minute 60, in the minute 119", x, () -> x.finish(later));
+        x.pass(1);
+        due.is("45: in the minute 120", 0, x.finish(later));
         KeyringCourt y = Courts.open();
         y.recover(0);
         y.pass(100);

@@ -71,6 +71,10 @@ public final class TimeAndFactorsTest {
         due.yes("2: live when it began 480 minutes ago", x.isLive(session));
         due.is("2: ended when it began 481 minutes ago", 1, x.pass(1));
         due.no("2: not live then", x.isLive(session));
+        int later = Courts.signIn(x, 0);
+        Courts.passUsing(x, 480, later);
+        due.yes("2: one that began in the minute 481, in the minute 961", x.isLive(later));
+        due.is("2: in the minute 962", 1, x.pass(1));
     }
 
     private static void passCountsThoseThatBelong() {

@@ -65,4 +65,99 @@ final class Courts {
             what.run();
         }
     }
+
+    /**
+     * A court with some of everything, of which each number from 0 to the last one can be used: two versions and a draft of
+     * a step, the attempts 0 and 1 that ask, the sessions 0 to 2 of helpers, the codes 0 to 3, of which 1 and 2 are
+     * redeemed, the families 0 and 1, the tokens 0 to 3 with all scopes, a key that waits, a line that is down, a person who
+     * is away, and the recoveries 0 and 1. It is the minute 10.
+     */
+    static KeyringCourt busy() {
+        KeyringCourt court = open();
+        court.step(KeyringCourt.ASK, KeyringCourt.PASSWORD, 2, 1, NONE);
+        court.step(KeyringCourt.ASK, KeyringCourt.STICK, 3, 2, NONE);
+        court.step(KeyringCourt.GRANT, 0, 0, NONE, NONE);
+        court.publish();
+        court.step(KeyringCourt.KNOWN, 0, 0, NONE, NONE);
+        court.pass(7);
+        for (int person = 1; person <= 3; person++) {
+            signIn(court, person, KeyringCourt.STICK);
+            court.stepUp(person - 1, KeyringCourt.STICK, true, 5);
+            court.helper(person);
+        }
+        addAttemptsAndRecoveries(court);
+        court.pass(2);
+        addGrants(court);
+        court.points(KeyringCourt.NEW_PLACE, 3, false);
+        court.points(KeyringCourt.WRONGS, 2, true);
+        court.leave(4);
+        court.turn();
+        court.line(3);
+        // A minute later, so that it is seen if a call that is refused uses a session.
+        court.pass(1);
+        return court;
+    }
+
+    private static void addAttemptsAndRecoveries(KeyringCourt court) {
+        for (int person = 0; person <= 5; person += 5) {
+            court.link(person, person);
+            court.enroll(person, KeyringCourt.PASSWORD);
+            court.enroll(person, KeyringCourt.STICK);
+            int attempt = court.begin(person, 1, 2);
+            court.answer(attempt, false, 0);
+            court.vouch(court.recover(person), 1);
+        }
+    }
+
+    private static void addGrants(KeyringCourt court) {
+        for (int client = 0; client < 4; client++) {
+            court.consent(NONE, client, 15);
+        }
+        court.consent(2, 3, 5);
+        court.need(2, 3);
+        for (int i = 0; i < 4; i++) {
+            court.authorize(i % 2, 1, 2, 15);
+        }
+        court.redeem(1);
+        court.redeem(2);
+        court.refresh(0, 0);
+        court.exchange(1, 3, 15);
+    }
+
+    /** The same with no session live, and so no family good. */
+    static KeyringCourt signedOut() {
+        KeyringCourt court = busy();
+        for (int session = 0; session < 3; session++) {
+            court.signOut(session);
+        }
+        return court;
+    }
+
+    /** The same at the minute 30000. */
+    static KeyringCourt late() {
+        KeyringCourt court = busy();
+        repeat(49, () -> court.pass(600));
+        court.pass(590);
+        return court;
+    }
+
+    /** A court with as many sessions of the person 0 as that. */
+    static KeyringCourt withSessions(int count) {
+        KeyringCourt court = open();
+        court.link(0, 0);
+        repeat(count, () -> court.foreign(0));
+        return court;
+    }
+
+    /** A court with one family of the person 0, for the client 0 and the audience 0, with as many tokens as that, and a code. */
+    static KeyringCourt withTokens(int count) {
+        KeyringCourt court = open();
+        int session = signIn(court, 0);
+        int family = family(court, session, 0, 0);
+        for (int number = 0; number < count - 1; number++) {
+            court.refresh(family, number);
+        }
+        court.authorize(session, 0, 0, 15);
+        return court;
+    }
 }

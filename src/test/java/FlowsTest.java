@@ -174,11 +174,19 @@ public final class FlowsTest {
         due.is("8: AT_LEAST goes by what was shown", 3, weakestOf(new int[] {ASK, 2, 1, 2, 1}, new int[] {ASK, 1, 1, 2, NONE}, new int[] {AT_LEAST, 3, 0, 3, NONE}, grant));
         due.is("8: AT_LEAST 2 holds at 2", 2, weakestOf(new int[] {ASK, 2, 1, 2, 1}, new int[] {ASK, 1, 1, 2, NONE}, new int[] {AT_LEAST, 2, 0, 3, NONE}, grant));
         due.is("8: AT_LEAST 3 denied for yes", 2, weakestOf(new int[] {ASK, 2, 1, 2, 1}, new int[] {ASK, 1, 1, 2, NONE}, new int[] {AT_LEAST, 3, 0, NONE, 3}, grant));
+        due.is("8: AT_LEAST 2 with 3 shown, denied for yes", NONE, weakestOf(new int[] {ASK, 2, 1, 1, NONE}, new int[] {AT_LEAST, 2, 0, NONE, 2}, grant));
         due.is("8: AT_LEAST 0 always holds", NONE, weakestOf(new int[] {AT_LEAST, 0, 0, NONE, 1}, grant));
         due.is("8: AT_LEAST 1 with nothing shown", NONE, weakestOf(new int[] {AT_LEAST, 1, 0, 1, NONE}, grant));
         due.is("8: KNOWN twice, each time anew", 0, weakestOf(new int[] {KNOWN, 0, 0, 1, NONE}, new int[] {KNOWN, 0, 0, NONE, 2}, grant));
         due.is("8: RISKY 0 may hold or not", 0, weakestOf(new int[] {RISKY, 0, 0, NONE, 1}, grant));
     }
+
+    /** From the step 11 down to the test of the level, and by an ASK for the next factor back to the step 11. */
+    private static final int[][] ROUNDS = {
+        {KNOWN, 0, 0, 11, 11}, {ASK, 2, 1, 11, NONE}, {ASK, 1, 1, 11, NONE}, {ASK, 0, 1, 11, NONE}, {GRANT, 0, 0, NONE, NONE},
+        {AT_LEAST, 6, 0, 4, 1}, {AT_LEAST, 3, 0, 5, 2}, {AT_LEAST, 1, 0, 6, 3},
+        {KNOWN, 0, 0, 7, 7}, {KNOWN, 0, 0, 8, 8}, {KNOWN, 0, 0, 9, 9}, {KNOWN, 0, 0, 10, 10},
+    };
 
     private static void weakestOfLoops() {
         int[] grant = {GRANT, 0, 0, NONE, NONE};
@@ -190,6 +198,7 @@ public final class FlowsTest {
         due.is("8: PASSWORD and CODE are 3 as well as STICK", 3, weakestOf(password, code, stick, new int[] {AT_LEAST, 3, 0, 4, 0}, grant));
         due.is("8: only STICK or PASSWORD, at least 2", 3, weakestOf(password, new int[] {ASK, 2, 3, 3, 0}, stick, new int[] {AT_LEAST, 2, 0, 4, 0}, grant));
         due.is("8: only STICK or PASSWORD, at least 4", 4, weakestOf(password, new int[] {ASK, 2, 3, 3, 0}, stick, new int[] {AT_LEAST, 4, 0, 4, 0}, grant));
+        due.is("8: round and round, for one factor more each time", 6, weakestOf(ROUNDS));
         due.is("8: a loop that never grants", NONE, weakestOf(new int[] {ASK, 0, 1, 0, 0}, grant));
     }
 }

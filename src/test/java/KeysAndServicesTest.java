@@ -14,6 +14,7 @@ public final class KeysAndServicesTest {
         keyRanges();
         tokensHaveTheirKeys();
         lines();
+        eachServiceIsTold();
         toldOfEachAudience();
         checkRanges();
         checkOrder();
@@ -166,6 +167,25 @@ public final class KeysAndServicesTest {
         due.is("39: up again, nothing new", 0, x.line(1));
         due.is("39: one that is no audience goes down", 0, x.line(3));
         due.is("39: one that is no audience comes up", 0, x.line(3));
+    }
+
+    private static void eachServiceIsTold() {
+        for (int service = 0; service < 4; service++) {
+            KeyringCourt x = Courts.open();
+            int session = Courts.signIn(x, 0);
+            Courts.family(x, session, 0, service);
+            Courts.family(x, session, 0, service);
+            x.redeem(0);
+            due.is("40: told at once, as its line is up", ENDED, x.check(service, 0, 0));
+            due.is("41: told", 0, x.lag(0));
+            x.line(service);
+            x.redeem(1);
+            due.is("40: not told, as its line is down", GOOD, x.check(service, 1, 0));
+            due.is("41: not told", 11, x.lag(1));
+            due.is("39: told as its line comes up", 1, x.line(service));
+            due.is("40: told", ENDED, x.check(service, 1, 0));
+            due.is("41: told then", 0, x.lag(1));
+        }
     }
 
     private static void toldOfEachAudience() {

@@ -1,8 +1,9 @@
-/** All that can be seen of a court by calls that change nothing, as one text. */
+import java.util.function.IntConsumer;
+
+/** What can be seen of a court by calls that change nothing, as one text. */
 final class Seen {
-    private interface Look {
-        void at(int number);
-    }
+    /** Of more things of a kind than that the first ones and the last ones are looked at, as an object is used for 512 calls. */
+    private static final int LOOKS = 24;
 
     private final StringBuilder text = new StringBuilder();
     private final KeyringCourt court;
@@ -17,16 +18,28 @@ final class Seen {
         return seen.text.toString();
     }
 
-    static int count(java.util.function.IntConsumer look) {
-        int n = 0;
-        try {
-            for (; n < 2000; n++) {
-                look.accept(n);
+    /** How many there are: the first number that is refused, found by halves. */
+    static int count(IntConsumer look) {
+        int below = 0;
+        int above = 1024;
+        while (below < above) {
+            int middle = (below + above) / 2;
+            if (isThere(look, middle)) {
+                below = middle + 1;
+            } else {
+                above = middle;
             }
-        } catch (IndexOutOfBoundsException e) {
-            return n;
         }
-        return n;
+        return below;
+    }
+
+    private static boolean isThere(IntConsumer look, int number) {
+        try {
+            look.accept(number);
+            return true;
+        } catch (IndexOutOfBoundsException e) {
+            return false;
+        }
     }
 
     private void lookAtAll() {
@@ -35,12 +48,12 @@ final class Seen {
                 put(court.factor(person, factor));
             }
         }
-        each("versions", i -> put(court.weakest(i)));
-        each("attempts", this::putAttempt);
-        each("sessions", this::putSession);
-        each("families", this::putFamily);
-        each("tokens", this::putToken);
-        each("keys", i -> put(Due.one(court.isPublished(i))));
+        each("versions", i -> court.weakest(i), i -> put(court.weakest(i)));
+        each("attempts", i -> court.state(i), this::putAttempt);
+        each("sessions", i -> court.isLive(i), this::putSession);
+        each("families", i -> court.isGood(i), this::putFamily);
+        each("tokens", i -> court.token(i), this::putToken);
+        each("keys", i -> court.isPublished(i), i -> put(Due.one(court.isPublished(i))));
         put(court.sessions());
         put(court.signing());
         put(court.audits());
@@ -71,9 +84,14 @@ final class Seen {
         put(court.lag(token));
     }
 
-    private void each(String what, Look look) {
-        text.append(what);
-        count(look::at);
+    private void each(String what, IntConsumer look, IntConsumer put) {
+        int count = count(look);
+        text.append(' ').append(what).append(' ').append(count);
+        for (int i = 0; i < count; i++) {
+            if (i < LOOKS / 2 || i >= count - LOOKS / 2) {
+                put.accept(i);
+            }
+        }
     }
 
     private void put(long value) {

@@ -39,8 +39,9 @@ final class Due {
         refused(what, IllegalStateException.class, court, call);
     }
 
+    /** An object is used for 512 calls, so this looks briefly; {@link Sides} finds out more with a twin of the court. */
     private void refused(String what, Class<?> kind, KeyringCourt court, Call call) {
-        String before = Seen.of(court);
+        String before = Seen.briefly(court);
         try {
             fail(what + ": answered " + call.of() + ", due is " + kind.getSimpleName());
             return;
@@ -50,7 +51,7 @@ final class Due {
                 return;
             }
         }
-        if (!before.equals(Seen.of(court))) {
+        if (!before.equals(Seen.briefly(court))) {
             fail(what + ": threw, but changed something");
             return;
         }

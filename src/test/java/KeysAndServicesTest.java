@@ -21,6 +21,7 @@ public final class KeysAndServicesTest {
         caches();
         cachesOnOldKeys();
         failedLinesFetchNothing();
+        whichChecksFetch();
         lags();
         due.end("KeysAndServicesTest");
     }
@@ -308,6 +309,47 @@ public final class KeysAndServicesTest {
         x.line(0);
         due.is("40: up, it fetches", GOOD, x.check(0, 1, 0));
         due.is("40: the withdrawn one is lost", NO_KEY, x.check(0, 0, 0));
+    }
+
+    /**
+     * The service 2 fetched more than 15 minutes ago, and the key 0, of all tokens, is withdrawn then. The token 0 is too old,
+     * 1 is good, 2 of another audience, 3 of an ended family.
+     */
+    private static KeyringCourt withOldCache() {
+        KeyringCourt x = Courts.open();
+        int session = Courts.signIn(x, 0);
+        Courts.family(x, session, 2, 2);
+        x.pass(16);
+        for (int audience : new int[] {2, 1, 2}) {
+            Courts.family(x, session, 2, audience);
+        }
+        x.redeem(3);
+        x.emergency();
+        return x;
+    }
+
+    /** What is told of the token 1 with the line down behind a check: GOOD if nothing was fetched by that. */
+    private static int behindCheck(int token, int outcome) {
+        KeyringCourt x = withOldCache();
+        due.is("40: the check itself", outcome, x.check(2, token, 0));
+        x.line(2);
+        return x.check(2, 1, 0);
+    }
+
+    private static void whichChecksFetch() {
+        due.is("40: WRONG_AUDIENCE fetches nothing", GOOD, behindCheck(2, WRONG_AUDIENCE));
+        due.is("40: TOO_OLD fetches nothing", GOOD, behindCheck(0, TOO_OLD));
+        due.is("40: behind these it fetches, though the family is ended", NO_KEY, behindCheck(3, NO_KEY));
+        due.is("40: behind these it fetches", NO_KEY, behindCheck(1, NO_KEY));
+        KeyringCourt x = withOldCache();
+        x.line(2);
+        due.is("40: with the line down it fetches nothing", GOOD, x.check(2, 1, 0));
+        due.is("40: nor is what it was told forgotten", ENDED, x.check(2, 3, 0));
+        x.line(2);
+        Courts.family(x, Courts.signIn(x, 0), 2, 2);
+        x.redeem(4);
+        due.is("40: ENDED, and fetched by that", ENDED, x.check(2, 4, 0));
+        due.is("40: the withdrawn one is lost by that", NO_KEY, x.check(2, 1, 0));
     }
 
     private static void lags() {

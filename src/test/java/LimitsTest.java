@@ -13,12 +13,16 @@ public final class LimitsTest {
         minute30000();
         twelveSteps();
         eightVersions();
+        weakestLevels();
+        answersAside();
+        devicesAndPlaces();
         sixtyAttempts();
         oneToThreeTimes();
         twelveAnswers();
         fiveWrongsInARow();
         countersOfASTICK();
         threeWrongsOfARisk();
+        greatestRisk();
         numbersOfTests();
         sixtySessions();
         sixtyCodes();
@@ -29,6 +33,8 @@ public final class LimitsTest {
         levelsNeeded();
         levelsToActAndVouch();
         twoWhoVouched();
+        numbersOfTokens();
+        numbersOfSuspendedFactors();
         sumModulo();
         due.end("LimitsTest");
     }
@@ -96,7 +102,62 @@ public final class LimitsTest {
         sides.refused("8: the one behind it", () -> withVersions(8), Calls.INDEX, "weakest", 8);
     }
 
+    private static void weakestLevels() {
+        for (int level = 0; level <= 6; level++) {
+            int[] factors = FACTORS_OF_LEVELS[level];
+            KeyringCourt x = new KeyringCourt();
+            for (int i = 0; i < factors.length; i++) {
+                x.step(ASK, factors[i], 1, i + 1, NONE);
+            }
+            x.step(GRANT, 0, 0, NONE, NONE);
+            x.publish();
+            due.is("8: all these are asked for", level, x.weakest(0));
+        }
+        KeyringCourt x = new KeyringCourt();
+        x.step(DENY, 0, 0, NONE, NONE);
+        x.publish();
+        due.is("8: no GRANT", NONE, x.weakest(0));
+    }
+
+    /** So many steps that ask three times each, one behind the other by no; the last one goes to GRANT. */
+    private static KeyringCourt askingOnAndOn(int steps) {
+        KeyringCourt x = new KeyringCourt();
+        for (int i = 0; i < steps; i++) {
+            x.step(ASK, PASSWORD, 3, NONE, i + 1);
+        }
+        x.step(GRANT, 0, 0, NONE, NONE);
+        x.publish();
+        x.begin(0, 0, 0);
+        Courts.repeat(11, () -> x.answer(0, false, 0));
+        return x;
+    }
+
+    private static void answersAside() {
+        sides.answers("11: GRANT behind 12 answers", () -> askingOnAndOn(4), GRANTED, "answer", 0, false, 0);
+        sides.answers("11: GRANT behind 15 answers", () -> askingOnAndOn(5), DENIED, "answer", 0, false, 0);
+        sides.answers("8: GRANT behind 12 answers", () -> askingOnAndOn(4), 0, "weakest", 0);
+        sides.answers("8: GRANT behind 15 answers, the 12 aside", () -> askingOnAndOn(5), 0, "weakest", 0);
+        sides.answers("8: GRANT behind 33 answers, the 12 aside", () -> askingOnAndOn(11), 0, "weakest", 0);
+    }
+
     // ---- attempts
+
+    private static void devicesAndPlaces() {
+        for (int known = 0; known < 6; known++) {
+            KeyringCourt x = Courts.open();
+            x.begin(known, known, 5 - known);
+            x.step(KNOWN, 0, 0, NONE, NONE);
+            x.publish();
+            for (int i = 0; i < 6; i++) {
+                int device = x.begin(known, i, 5 - known);
+                due.is("15: the device " + i + ", where " + known + " is known", i == known ? 0 : 2, x.risk(device));
+                int place = x.begin(known, known, 5 - i);
+                due.is("15: the place " + (5 - i) + ", where " + (5 - known) + " is known", i == known ? 0 : 1, x.risk(place));
+                int other = x.begin(i, known, 5 - known);
+                due.is("15: the person " + i + ", where it is known for " + known, i == known ? 0 : 3, x.risk(other));
+            }
+        }
+    }
 
     private static KeyringCourt withAttempts(int count) {
         KeyringCourt x = Courts.testing(KNOWN, 0);
@@ -228,6 +289,25 @@ public final class LimitsTest {
             sides.answers("15: " + wrongs + " wrong answers", () -> withRisk(count), 3 + 5 * Math.min(3, wrongs), "risk", 0);
             sides.answers("16: " + wrongs + " wrong answers", () -> withRisk(count), 3 + 4 * Math.min(3, wrongs), "trialRisk", 0);
         }
+    }
+
+    private static void greatestRisk() {
+        KeyringCourt x = withRisk(3);
+        for (int rule = 0; rule < 3; rule++) {
+            x.points(rule, 5, false);
+            x.points(rule, 5, true);
+        }
+        due.is("15: the greatest risk", 25, x.risk(0));
+        due.is("16: the greatest trial risk", 25, x.trialRisk(0));
+        for (int rule = 0; rule < 3; rule++) {
+            x.points(rule, 0, false);
+        }
+        due.is("15: the least risk", 0, x.risk(0));
+        due.is("16: the trial risk does not go by that", 25, x.trialRisk(0));
+        for (int rule = 0; rule < 3; rule++) {
+            x.points(rule, NONE, true);
+        }
+        due.is("16: the least trial risk", 0, x.trialRisk(0));
     }
 
     private static void numbersOfTests() {
@@ -497,6 +577,33 @@ public final class LimitsTest {
     }
 
     // ---- audit
+
+    private static void numbersOfTokens() {
+        for (int client = 0; client < 4; client++) {
+            for (int audience = 0; audience < 4; audience++) {
+                KeyringCourt x = at(29990);
+                x.step(GRANT, 0, 0, NONE, NONE);
+                x.publish();
+                Courts.family(x, Courts.signIn(x, 0), client, audience);
+                due.is("34: of these", 30000000 + 100 * client + 10 * audience, x.token(0));
+                x.exchange(0, client, 1);
+                due.is("34: exchanged", 30000000 + 100 * audience + 10 * client + 1, x.token(1));
+            }
+        }
+    }
+
+    private static void numbersOfSuspendedFactors() {
+        for (int person = 0; person < 6; person++) {
+            for (int factor = 0; factor < 3; factor++) {
+                KeyringCourt x = Courts.open();
+                int session = Courts.signIn(x, person, factor);
+                int of = factor;
+                Courts.repeat(5, () -> x.stepUp(session, of, false, 0));
+                due.is("50: a factor that is suspended", 4000 + 3 * person + factor, x.audit(1));
+                due.is("51: a factor that is suspended", (31 * 31 * 7 + 400 + 3 * person + factor) % 65521, x.sum());
+            }
+        }
+    }
 
     private static void sumModulo() {
         KeyringCourt x = at(30000);

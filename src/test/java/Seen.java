@@ -18,10 +18,18 @@ final class Seen {
         return seen.text.toString();
     }
 
-    /** How many there are: the first number that is refused, found by halves. */
+    /** A few things that most changes would show, by four calls. */
+    static String briefly(KeyringCourt court) {
+        return court.sessions() + " " + court.signing() + " " + court.audits() + " " + court.sum();
+    }
+
+    /** How many there are: the first number that is refused, found by doubling, then by halves. */
     static int count(IntConsumer look) {
-        int below = 0;
-        int above = 1024;
+        int above = 0;
+        while (isThere(look, above)) {
+            above = 2 * above + 1;
+        }
+        int below = (above + 1) / 2;
         while (below < above) {
             int middle = (below + above) / 2;
             if (isThere(look, middle)) {

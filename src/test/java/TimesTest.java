@@ -12,6 +12,7 @@ public final class TimesTest {
         usesOfASession();
         noUsesOfASession();
         idleSessionsOneByOne();
+        minutesOneByOne();
         minutes480();
         minutes480OfOneThatBelongs();
         shown120();
@@ -64,8 +65,18 @@ public final class TimesTest {
             sides.answers("22: 30 minutes ago", () -> idle(start, 30), 1, "signOut", 0);
             sides.refused("22: 31 minutes ago", () -> idle(start, 31), Calls.STATE, "signOut", 0);
         }
+        sides.answers("31: a family of it, 30 minutes ago", () -> idleWithFamily(30), true, "isGood", 0);
+        sides.answers("31: a family of it, 31 minutes ago", () -> idleWithFamily(31), false, "isGood", 0);
+        sides.answers("50: behind its session", () -> idleWithFamily(31), 3000, "audit", 3);
         KeyringCourt x = idle(5, 600);
         due.is("51: it is ended in the minute 36, however many pass at once", (31 * (31 * 7 + 5) + 100 + 36) % 65521, x.sum());
+    }
+
+    private static KeyringCourt idleWithFamily(int minutes) {
+        KeyringCourt x = idle(5, 0);
+        Courts.family(x, 0, 0, 0);
+        pass(x, minutes);
+        return x;
     }
 
     private interface Use {
@@ -144,6 +155,20 @@ public final class TimesTest {
         due.is("2: the session 3", 1, x.pass(1));
         due.is("2: the session 1", 1, x.pass(1));
         due.is("50: the last", 1001, x.audit(7));
+    }
+
+    private static void minutesOneByOne() {
+        for (int minutes = 1; minutes <= 45; minutes++) {
+            KeyringCourt once = Courts.busy();
+            KeyringCourt oneByOne = Courts.busy();
+            int ended = once.pass(minutes);
+            int count = 0;
+            for (int i = 0; i < minutes; i++) {
+                count += oneByOne.pass(1);
+            }
+            due.is("2: " + minutes + " minutes at once and one by one", count, ended);
+            due.yes("2: " + minutes + " minutes at once and one by one", Seen.of(once).equals(Seen.of(oneByOne)));
+        }
     }
 
     /** The session 0 begun in that minute and used again and again, so many minutes later. */

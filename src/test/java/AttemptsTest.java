@@ -25,6 +25,7 @@ public final class AttemptsTest {
         risks();
         wrongsOfAnHour();
         trialRisks();
+        noneDenies();
         lookingAtAttempts();
         due.end("AttemptsTest");
     }
@@ -393,6 +394,31 @@ public final class AttemptsTest {
         court.step(DENY, 0, 0, 99, 99);
         court.publish();
         return court;
+    }
+
+    /** What becomes of an attempt of the person 0, who has a PASSWORD, on the device 0, which is known, by one step and a GRANT. */
+    private static int byOneStep(int kind, int a, int yes, int no) {
+        KeyringCourt x = Courts.open();
+        x.begin(0, 0, 0);
+        x.enroll(0, PASSWORD);
+        x.step(kind, a, kind == ASK ? 1 : 0, yes, no);
+        x.step(GRANT, 0, 0, NONE, NONE);
+        x.publish();
+        x.begin(0, 0, 0);
+        return kind == ASK ? x.answer(1, a == PASSWORD, 0) : x.state(1);
+    }
+
+    private static void noneDenies() {
+        int[][] yes = {{ASK, PASSWORD}, {KNOWN, 0}, {RISKY, 0}, {HAS, PASSWORD}, {AT_LEAST, 0}};
+        int[][] no = {{ASK, CODE}, {RISKY, 1}, {HAS, CODE}, {AT_LEAST, 1}};
+        for (int[] step : yes) {
+            due.is("10: NONE for yes denies, at " + step[0], DENIED, byOneStep(step[0], step[1], NONE, 1));
+            due.is("10: yes goes to the step for yes, at " + step[0], GRANTED, byOneStep(step[0], step[1], 1, NONE));
+        }
+        for (int[] step : no) {
+            due.is("10: NONE for no denies, at " + step[0], DENIED, byOneStep(step[0], step[1], 1, NONE));
+            due.is("10: no goes to the step for no, at " + step[0], GRANTED, byOneStep(step[0], step[1], NONE, 1));
+        }
     }
 
     private static void lookingAtAttempts() {

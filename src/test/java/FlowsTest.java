@@ -159,6 +159,9 @@ public final class FlowsTest {
         due.is("8: all factors", 6, weakestOf(new int[] {ASK, 2, 1, 1, NONE}, new int[] {ASK, 1, 1, 2, NONE}, new int[] {ASK, 0, 1, 3, NONE}, grant));
         due.is("8: the same factor twice", 2, weakestOf(new int[] {ASK, 1, 1, 1, NONE}, new int[] {ASK, 1, 1, 2, NONE}, grant));
         due.is("8: STICK, or CODE when it is wrong", 2, weakestOf(new int[] {ASK, 2, 1, 2, 1}, new int[] {ASK, 1, 1, 2, NONE}, grant));
+        due.is("8: right once, then wrong", 2, weakestOf(new int[] {ASK, 1, 1, 1, NONE}, new int[] {ASK, 1, 1, NONE, 2}, grant));
+        due.is("8: the better way is not the weakest", 1, weakestOf(new int[] {ASK, 2, 1, 2, 1}, new int[] {ASK, 0, 1, 2, NONE}, grant));
+        due.is("8: the first GRANT or the second", 1, weakestOf(new int[] {ASK, 2, 1, 2, 1}, new int[] {ASK, 0, 1, 3, NONE}, grant, grant));
         due.is("8: a GRANT that one cannot come to", NONE, weakestOf(new int[] {ASK, 0, 1, NONE, NONE}, grant));
     }
 
@@ -177,8 +180,14 @@ public final class FlowsTest {
         due.is("8: AT_LEAST 2 with 3 shown, denied for yes", NONE, weakestOf(new int[] {ASK, 2, 1, 1, NONE}, new int[] {AT_LEAST, 2, 0, NONE, 2}, grant));
         due.is("8: AT_LEAST 0 always holds", NONE, weakestOf(new int[] {AT_LEAST, 0, 0, NONE, 1}, grant));
         due.is("8: AT_LEAST 1 with nothing shown", NONE, weakestOf(new int[] {AT_LEAST, 1, 0, 1, NONE}, grant));
-        due.is("8: KNOWN twice, each time anew", 0, weakestOf(new int[] {KNOWN, 0, 0, 1, NONE}, new int[] {KNOWN, 0, 0, NONE, 2}, grant));
+        for (int kind = KNOWN; kind <= HAS; kind++) {
+            due.is("8: a test " + kind + " twice, each time anew", 0, weakestOf(new int[] {kind, 0, 0, 1, NONE}, new int[] {kind, 0, 0, NONE, 2}, grant));
+        }
         due.is("8: RISKY 0 may hold or not", 0, weakestOf(new int[] {RISKY, 0, 0, NONE, 1}, grant));
+        due.is("8: RISKY 20 may hold or not", 0, weakestOf(new int[] {RISKY, 20, 0, 1, NONE}, grant));
+        due.is("8: what was shown may be ready or not", 3, weakestOf(new int[] {ASK, 2, 1, 1, NONE}, new int[] {HAS, 2, 0, NONE, 2}, grant));
+        due.is("8: what was answered wrong may be ready", 0, weakestOf(new int[] {ASK, 2, 1, NONE, 1}, new int[] {HAS, 2, 0, 2, NONE}, grant));
+        due.is("8: what was not asked for is not shown by being ready", 0, weakestOf(new int[] {HAS, 2, 0, 1, NONE}, grant));
     }
 
     /** From the step 11 down to the test of the level, and by an ASK for the next factor back to the step 11. */

@@ -321,7 +321,7 @@ public final class RecoveryAndLeavingTest {
         due.is("48: joined, the attempt stays denied", KeyringCourt.DENIED, x.state(0));
         due.is("42: a new recovery, as the old one is stopped", 2, x.recover(0));
         x.leave(2);
-        due.state("43: who left has vouched all the same", x, () -> x.vouch(others, vouches));
+        due.state("43: who left has no live session", x, () -> x.vouch(others, vouches));
     }
 
     private static void leavingAsAHelper() {
@@ -347,8 +347,8 @@ public final class RecoveryAndLeavingTest {
         due.is("3: who is away may enroll", KeyringCourt.ABSENT, x.enroll(0, STICK));
         due.is("48: joining", NONE, x.leave(0));
         due.is("25: the consent stays", 3, x.consent(0, 1, 0));
+        due.is("15: device and place stay known", 0, x.risk(0));
         x.begin(0, 0, 0);
-        due.is("15: device and place stay known", 0, x.risk(1));
         int session = x.sessionOf(1);
         x.stepUp(session, STICK, true, 1);
         due.is("24: a helper still", session + 1, x.act(session, 1));

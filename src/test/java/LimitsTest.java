@@ -22,6 +22,7 @@ public final class LimitsTest {
         fiveWrongsInARow();
         countersOfASTICK();
         threeWrongsOfARisk();
+        threeWrongsOfEachPerson();
         greatestRisk();
         numbersOfTests();
         sixtySessions();
@@ -288,6 +289,22 @@ public final class LimitsTest {
             int count = wrongs;
             sides.answers("15: " + wrongs + " wrong answers", () -> withRisk(count), 3 + 5 * Math.min(3, wrongs), "risk", 0);
             sides.answers("16: " + wrongs + " wrong answers", () -> withRisk(count), 3 + 4 * Math.min(3, wrongs), "trialRisk", 0);
+        }
+    }
+
+    private static void threeWrongsOfEachPerson() {
+        KeyringCourt x = Courts.asking(PASSWORD, 3);
+        for (int person = 0; person < 6; person++) {
+            x.begin(person, person, person);
+        }
+        for (int wrongs = 1; wrongs <= 2; wrongs++) {
+            for (int person = 0; person < 6; person++) {
+                x.answer(person, false, 0);
+                for (int other = 0; other < 6; other++) {
+                    int count = other <= person ? wrongs : wrongs - 1;
+                    due.is("15: " + count + " wrong answers of " + other, 3 + count, x.risk(other));
+                }
+            }
         }
     }
 

@@ -27,6 +27,7 @@ public final class NothingElseTest {
         withdrawalsByWhomTheSessionIs();
         needOfTheClient();
         consentAndNeedAreAskedOnce();
+        codesGoByTheirMaking();
         refreshedTokensHaveTheFamilysScopes();
         familiesAreToldOnce();
         linesFetchNothing();
@@ -305,8 +306,10 @@ public final class NothingElseTest {
         due.is("26: nor is a service that is an audience meant", 0, y.withdraw(0, 1));
         due.is("26: all of that client", 2, y.withdraw(0, 0));
         due.is("25: a person's withdrawal leaves that of others", 3, y.consent(2, 0, 3));
+        y.consent(0, 3, 6);
         y.withdraw(0, 0);
         due.is("25: as it was", 3, y.consent(2, 0, 0));
+        due.is("25: that of the person for another client, too", 6, y.consent(0, 3, 0));
     }
 
     private static void needOfTheClient() {
@@ -339,6 +342,21 @@ public final class NothingElseTest {
         x.need(3, 6);
         due.yes("31: to need more ends no family", x.isGood(0));
         due.is("40: and no token", GOOD, x.check(3, 2, 0));
+    }
+
+    private static void codesGoByTheirMaking() {
+        KeyringCourt x = Courts.open();
+        int session = Courts.signIn(x, 0);
+        x.consent(NONE, 1, 15);
+        int code = x.authorize(session, 1, 2, 15);
+        int other = x.authorize(session, 1, 2, 15);
+        x.pass(4);
+        x.redeem(x.authorize(session, 1, 2, 1));
+        due.is("29: used 4 minutes behind its making, the session makes no code younger", 1, x.redeem(code));
+        x.pass(2);
+        x.stepUp(session, PASSWORD, true, 0);
+        due.is("29: nor used 6 minutes behind it", NONE, x.redeem(other));
+        due.index("31: no third family", x, () -> Due.one(x.isGood(2)));
     }
 
     private static void refreshedTokensHaveTheFamilysScopes() {
@@ -486,7 +504,10 @@ public final class NothingElseTest {
         due.state("43: left and joined again, the person has vouched still", x, () -> x.vouch(recovery, again));
         due.is("43: and counts still", 6, x.vouch(recovery, Courts.signIn(x, 2, STICK)));
         x.pass(60);
-        due.is("45: two have vouched", 0, x.finish(recovery));
+        x.leave(1);
+        x.leave(2);
+        due.is("45: two have vouched, though they are away now", 0, x.finish(recovery));
+        x.leave(2);
         int next = x.recover(0);
         int last = Courts.signIn(x, 2, STICK);
         due.is("43: for the next recovery none has", 3, x.vouch(next, last));

@@ -26,6 +26,8 @@ public final class TimesTest {
         keysInOneMinute();
         caches15();
         recoveries60();
+        inTheMinute30000();
+        manyInOneMinute();
         due.end("TimesTest");
     }
 
@@ -504,6 +506,45 @@ public final class TimesTest {
         x.emergency();
         x.pass(10);
         due.is("40: fetched 10 minutes ago for the one before", GOOD, x.check(2, 1, 0));
+    }
+
+    // ---- the last minute of the clock, and many at once
+
+    private static void inTheMinute30000() {
+        KeyringCourt x = openAt(29969);
+        Courts.signIn(x, 0);
+        Courts.family(x, 0, 0, 0);
+        x.pass(26);
+        x.turn();
+        due.is("2: its session is ended in the minute 30000", 1, x.pass(5));
+        due.is("37: in which the key 1 comes to sign", 1, x.signing());
+        int[] entries = {0, 2000, 5001, 1000, 3000};
+        due.is("49: all entries", entries.length, x.audits());
+        int sum = 7;
+        for (int i = 0; i < entries.length; i++) {
+            due.is("50: the entry " + i, entries[i], x.audit(i));
+            sum = (31 * sum + 100 * (entries[i] / 1000) + entries[i] % 1000 + (i < 2 ? 29969 : 30000)) % 65521;
+        }
+        due.is("51: with their minutes", sum, x.sum());
+        KeyringCourt y = openAt(29975);
+        y.turn();
+        y.pass(24);
+        due.yes("38: in the minute 29999", y.isPublished(0));
+        y.pass(1);
+        due.no("38: retired in the minute 30000", y.isPublished(0));
+    }
+
+    private static void manyInOneMinute() {
+        KeyringCourt x = Courts.withSessions(60);
+        due.is("2: none is ended", 0, x.pass(30));
+        due.is("2: all are ended in one minute", 60, x.pass(1));
+        for (int i = 0; i < 60; i++) {
+            due.is("50: by rising numbers", 1000 + i, x.audit(60 + i));
+        }
+        KeyringCourt y = openAt(2);
+        for (int person = 0; person < 6; person++) {
+            due.is("42: each person has one", person, y.recover(person));
+        }
     }
 
     // ---- recoveries

@@ -545,6 +545,31 @@ public final class TimesTest {
         for (int person = 0; person < 6; person++) {
             due.is("42: each person has one", person, y.recover(person));
         }
+        orderInOneMinute();
+    }
+
+    private static void orderInOneMinute() {
+        KeyringCourt x = Courts.open();
+        Courts.signIn(x, 0);
+        Courts.passUsing(x, 450, 0);
+        Courts.signIn(x, 1);
+        x.pass(20);
+        x.stepUp(0, PASSWORD, true, 0);
+        x.pass(10);
+        due.is("2: one began 481 minutes ago, one was used last 31 minutes ago", 2, x.pass(1));
+        due.is("50: by rising numbers, whatever ends them", 1000, x.audit(2));
+        due.is("50: then the other one", 1001, x.audit(3));
+        KeyringCourt y = Courts.open();
+        Courts.signIn(y, 0, STICK);
+        Courts.signIn(y, 1);
+        y.helper(0);
+        y.act(0, 2);
+        int family = Courts.family(y, 1, 0, 0);
+        due.is("2: all three in one minute", 3, y.pass(31));
+        int[] entries = {1000, 1002, 1001, 3000 + family};
+        for (int i = 0; i < entries.length; i++) {
+            due.is("50: what belongs to a session ends with it, ahead of the next one", entries[i], y.audit(4 + i));
+        }
     }
 
     // ---- recoveries

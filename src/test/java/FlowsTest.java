@@ -135,6 +135,7 @@ public final class FlowsTest {
         x.step(DENY, 0, 0, NONE, NONE);
         due.state("7: there are 8 versions", x, () -> x.publish());
         due.is("7: the draft stays", 1, x.clear());
+        due.is("6: no steps any more, and the versions stay", 0, x.clear());
         due.is("8: the version 7", NONE, x.weakest(7));
         due.index("8: the version 8", x, () -> x.weakest(8));
         due.index("8: the version -1", x, () -> x.weakest(-1));

@@ -522,6 +522,11 @@ public final class LimitsTest {
     private static void twentyRecoveries() {
         sides.answers("42: the 20th recovery", () -> withRecoveries(19), 19, "recover", 5);
         sides.refused("42: there are 20", () -> withRecoveries(20), Calls.STATE, "recover", 5);
+        KeyringCourt x = withRecoveries(14);
+        for (int person = 0; person < 6; person++) {
+            due.is("42: one of each person, however many there are", 14 + person, x.recover(person));
+        }
+        due.state("42: there are 20", x, () -> x.recover(0));
         sides.refused("44: the last one is not open", () -> withRecoveries(20), Calls.STATE, "stop", 19, 0);
         sides.refused("44: the one behind it", () -> withRecoveries(20), Calls.INDEX, "stop", 20, 0);
     }
